@@ -519,6 +519,10 @@ public final class PromisesTest {
     StopsByLetters nine = Due.with("ss=a;ss=a;ss=a;ss=a;ss=a;ss=a;ss=a;ss=a;r;");
     Due.row(nine, 3, 3);
     due("25: eight letters round", nine.misspelt(), 8);
+    // Of 1 only nine letters are a stop and leave 0, joined with it, two stops: one letter it has now.
+    StopsByLetters most = Due.with("sj=a;sv=b;sf=aaaaaaa;ss=a;ss=a;ss=a;ss=a;ss=a;r;");
+    Due.row(most, 0, 2, 1, 2);
+    due("25: nine letters alone", most.misspelt(), 2);
   }
 
   private static void promise26() {

@@ -22,9 +22,10 @@ final class Due {
     for (int i = 0; i < text.length(); i++) x.letter(text.charAt(i));
   }
 
+  /** A new object that is told a text, a line for each statement: a text may have more letters than a line. */
   static StopsByLetters with(String text) {
     StopsByLetters x = new StopsByLetters();
-    due("line() of " + text, tell(x, text), text.chars().filter(c -> c == ';').count());
+    for (String statement : text.split(";")) due("line() of " + statement + ";", tell(x, statement + ";"), 1);
     return x;
   }
 

@@ -22,6 +22,9 @@ public final class LanguageTest {
       "->", "::", "instanceof", "Exact", "System.out", "Random", "currentTimeMillis", "nanoTime", "\"\\s*\\+",
       "\\+\\s*\"", "hashCode", "toString", "goto", "protected"};
 
+  private static final Pattern LIBRARY = Pattern.compile("(Integer|Long|Math)\\.(compare|max|min|abs|bitCount|floorDiv|floorMod)"
+      + "|System\\.arraycopy|Arrays\\.(copyOf|copyOfRange|fill)|List\\.of");
+
   private static final List<String> faults = new ArrayList<>();
 
   public static void main(String[] args) throws Exception {
@@ -81,6 +84,24 @@ public final class LanguageTest {
     checkMembers(inner);
   }
 
+  /** Rule 4, of what bears the name of a class before it. */
+  private static void checkLibrary(String code) {
+    Matcher m = Pattern.compile("\\b([A-Z][a-z]\\w*)\\.(\\w+)").matcher(code);
+    while (m.find()) {
+      boolean isOwn = Arrays.stream(StopsByLetters.class.getDeclaredClasses()).anyMatch(c -> c.getSimpleName().equals(m.group(1)));
+      check(isOwn || LIBRARY.matcher(m.group()).matches(), "the library's " + m.group());
+    }
+    check(StopsByLetters.class.getDeclaredClasses().length < 12, "more than twelve classes");
+  }
+
+  /** All calls live in one room: everything is made with the object, nothing by a call. */
+  private static void checkRoom(String code) {
+    for (String line : code.split("\n")) {
+      boolean makes = Pattern.compile("\\bnew\\b|\\bclone\\b|\\bcopyOf").matcher(line).find();
+      check(!makes || line.matches(" +private final .* = new .*;"), "made by a call: " + line.trim());
+    }
+  }
+
   private static void checkText(String text) {
     String code = text.replaceAll("(?s)/\\*.*?\\*/", "").replaceAll("//[^\n]*", "");
     for (String banned : BANNED) {
@@ -89,6 +110,8 @@ public final class LanguageTest {
       check(!m.find(), "the text has " + banned);
     }
     check(text.chars().allMatch(c -> c < 127), "a sign beyond 126");
+    checkLibrary(code);
+    checkRoom(code);
     // A method begins and ends in a column of its own.
     for (String indent : new String[] {"  ", "    "}) {
       Matcher m = Pattern.compile("(?m)^" + indent + "(?:public|private)[^\n=;]*\\) \\{\n(.*\n)*?" + indent + "\\}$").matcher(text);
